@@ -9,6 +9,7 @@ public final class SelfScale {
     private static final int MOST_THINGS = 3;
     private static final int MOST_SETS = 8;
     private static final int MOST_WEIGHT = 9;
+    private static final int LEAST_FIGURES = 2;
     private static final int MOST_FIGURES = 20;
     private static final int MOST_LINES = 12;
     private static final int MOST_BYTES = 200;
@@ -418,7 +419,11 @@ public final class SelfScale {
                 if (word == END) {
                     return SOUND;
                 }
-                if (!mayBegin(word) || token() != NUMBER || !takes(word) || token() != STOP) {
+                if (!mayBegin(word) || token() != NUMBER || !mayTake(word)) {
+                    return start;
+                }
+                take(word);
+                if (token() != STOP) {
                     return start;
                 }
                 items++;
@@ -431,9 +436,7 @@ public final class SelfScale {
             items = 0;
             isOwnTold = false;
             areFiguresTold = false;
-            start = 0;
             end = 0;
-            number = 0;
         }
 
         private boolean mayBegin(int word) {
@@ -449,19 +452,30 @@ public final class SelfScale {
             }
         }
 
-        /** Whether the latest number may stand behind that word; then it is told. */
-        private boolean takes(int word) {
+        private boolean mayTake(int word) {
             switch (word) {
                 case THING_WORD:
-                    return isBetween(number, 1, MOST_WEIGHT) && told.addThing(number);
+                    return isBetween(number, 1, MOST_WEIGHT);
                 case OWN_WORD:
-                    isOwnTold = true;
-                    return isBetween(number, 0, MOST_WEIGHT) && told.setOwn(number);
-                case FIGURES_WORD:
-                    areFiguresTold = true;
-                    return isBetween(number, 2, MOST_FIGURES) && told.setFigures(number);
+                    return isBetween(number, 0, MOST_WEIGHT);
                 default:
-                    return false;
+                    return isBetween(number, LEAST_FIGURES, MOST_FIGURES);
+            }
+        }
+
+        private void take(int word) {
+            switch (word) {
+                case THING_WORD:
+                    told.addThing(number);
+                    break;
+                case OWN_WORD:
+                    told.setOwn(number);
+                    isOwnTold = true;
+                    break;
+                default:
+                    told.setFigures(number);
+                    areFiguresTold = true;
+                    break;
             }
         }
 
@@ -469,9 +483,7 @@ public final class SelfScale {
         private int token() {
             start = endOfBlanks(end);
             int sign = text.byteAt(start);
-            end = start + 1;
             if (sign < 0) {
-                end = start;
                 return END;
             }
             if (isLetter(sign)) {
@@ -482,6 +494,7 @@ public final class SelfScale {
                 end = endOfDigits(start);
                 return numberToken();
             }
+            end = start + 1;
             return sign == ';' ? STOP : FAULTY;
         }
 
@@ -564,23 +577,19 @@ public final class SelfScale {
             figures = other.figures;
         }
 
-        boolean addThing(int weight) {
-            if (things >= MOST_THINGS) {
-                return false;
+        void addThing(int weight) {
+            if (things < MOST_THINGS) {
+                weights.put(things, weight);
+                things++;
             }
-            weights.put(things, weight);
-            things++;
-            return true;
         }
 
-        boolean setOwn(int weight) {
+        void setOwn(int weight) {
             own = weight;
-            return true;
         }
 
-        boolean setFigures(int number) {
+        void setFigures(int number) {
             figures = number;
-            return true;
         }
 
         int things() {

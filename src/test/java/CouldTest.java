@@ -88,6 +88,11 @@ public final class CouldTest {
         SelfScale y = new SelfScale();
         y.weigh(0, 0, 1);
         CHECK.due("own of 0 is sure", y.sure(3), 0);
+        SelfScale z = Check.market("thing 9;own 9;");
+        z.weigh(0, 0, 1);
+        z.weigh(1, 0, 1);
+        CHECK.due("own of 9 is sure", z.sure(3), 9);
+        CHECK.due("a thing of 9 is sure", z.sure(0), 9);
     }
 
     private static void falseLines() {

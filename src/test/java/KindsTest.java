@@ -38,6 +38,9 @@ public final class KindsTest {
         }
         mark(x, 3, 1, -6, 1011);
         mark(x, 5, 1, 11, 100001);
+        x.undo();
+        mark(x, 3, 1, -5, 1011);
+        mark(x, 5, 1, 10, 100001);
         SelfScale y = Check.market("thing 1;");
         for (int k = 0; k < 12; k++) {
             y.tell(0, 0, 0);
