@@ -1115,12 +1115,7 @@ public final class SelfScale {
                     return 1;
                 }
             }
-            for (int set = 0; set < scale.sets(); set++) {
-                if (isSureByTwo(set, item)) {
-                    return 2;
-                }
-            }
-            return NONE;
+            return item != OWN && isSureByNoneAndAlone(item) ? 2 : NONE;
         }
 
         private boolean isSureBy(int set, int item) {
@@ -1136,30 +1131,23 @@ public final class SelfScale {
             return true;
         }
 
-        private boolean isSureByTwo(int first, int item) {
-            int unsure = (1 << scale.figures()) - 1;
-            for (int second = 0; second < scale.sets(); second++) {
-                unsure = stillUnsure(unsure, first, second, item);
-            }
-            return unsure == 0;
-        }
-
-        /** Of what the first may show (bits, not yet sure by another second): after which this second is in vain. */
-        private int stillUnsure(int unsure, int first, int second, int item) {
+        /**
+         * All that weighings can ever tell of a thing is what its weight leaves over. Weighing none, then the thing
+         * alone, tells just that: where these two are too few, so are any two, even if the second hangs on the first.
+         * (Of OWN, weighing none tells that by itself.)
+         */
+        private boolean isSureByNoneAndAlone(int thing) {
             seenByTwo.wipe();
-            int vain = 0;
             int left = worlds.left();
             int world = -1;
-            for (int k = 0; k < left && vain != unsure; k++) {
+            for (int k = 0; k < left; k++) {
                 world = worlds.leftAfter(world);
-                int shown = shownIn(world, first);
-                int place = shown * MOST_FIGURES + shownIn(world, second);
-                boolean isOpen = ((unsure & ~vain) >> shown & 1) == 1;
-                if (isOpen && isTorn(seenByTwo, place, Worlds.weightIn(world, item))) {
-                    vain |= 1 << shown;
+                int place = shownIn(world, 0) * MOST_FIGURES + shownIn(world, 1 << thing);
+                if (isTorn(seenByTwo, place, Worlds.weightIn(world, thing))) {
+                    return false;
                 }
             }
-            return vain;
+            return true;
         }
 
         /** Whether a place has now seen two weights. */

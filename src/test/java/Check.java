@@ -1,6 +1,8 @@
 /** What all tests share: counts the answers that are not due, types texts, makes markets. */
 final class Check {
     private final String name;
+    private String sentence = "";
+    private int sentences;
     private int asked;
     private int wrong;
 
@@ -8,11 +10,17 @@ final class Check {
         this.name = name;
     }
 
+    /** Says which words of the document the answers that follow are due by. */
+    void of(String words) {
+        sentence = "'" + words + "': ";
+        sentences++;
+    }
+
     void due(String call, long got, long want) {
         asked++;
         if (got != want) {
             wrong++;
-            System.out.println(name + ": " + call + " answered " + got + ", due is " + want);
+            System.out.println(name + ": " + sentence + call + " answered " + got + ", due is " + want);
         }
     }
 
@@ -43,7 +51,8 @@ final class Check {
 
     /** Ends the machine with 1 if an answer was wrong. */
     void end() {
-        System.out.println(name + ": " + asked + " answers, " + wrong + " of them not as due");
+        String by = sentences == 0 ? "" : sentences + " sentences, ";
+        System.out.println(name + ": " + by + asked + " answers, " + wrong + " of them not as due");
         if (wrong != 0) {
             System.exit(1);
         }
