@@ -1,19 +1,16 @@
-/** Promises 10, 11, 12, 15 and 16: what could be, what is sure, false lines, laughs and their odds. */
+/** Promises 10, 11, 12, 15 and 16: what could be, what is sure, false lines, laughs, odds; see CouldBoundsTest, too. */
 public final class CouldTest {
     private static final Check CHECK = new Check("CouldTest");
 
     public static void main(String[] args) {
         worlds();
         fittingLaughs();
-        badCould();
         sureThings();
         falseLines();
         everFalse();
         surelyLaughed();
         oddsOfOne();
         oddsOfSeveral();
-        oddsOfTwelve();
-        badOdds();
         CHECK.end();
     }
 
@@ -51,22 +48,6 @@ public final class CouldTest {
         CHECK.due("with one or without, 9", x.could(0, 9), 1);
         x.tell(0, 0, 1);
         CHECK.due("a laugh alone shows more than 0", x.could(-1, 0), 0);
-    }
-
-    private static void badCould() {
-        SelfScale x = Check.market("thing 7;thing 3;");
-        CHECK.due("i -2", x.could(-2, 0), SelfScale.BAD);
-        CHECK.due("i 2", x.could(2, 1), SelfScale.BAD);
-        CHECK.due("i 4", x.could(4, 1), SelfScale.BAD);
-        CHECK.due("w -1", x.could(0, -1), SelfScale.BAD);
-        CHECK.due("w 10", x.could(3, 10), SelfScale.BAD);
-        CHECK.due("w 10 of all", x.could(-1, 10), SelfScale.BAD);
-        CHECK.due("w -1 of all", x.could(-1, -1), SelfScale.BAD);
-        CHECK.due("sure -1", x.sure(-1), SelfScale.BAD);
-        CHECK.due("sure 2", x.sure(2), SelfScale.BAD);
-        CHECK.due("sure 4", x.sure(4), SelfScale.BAD);
-        CHECK.due("wrong -1", x.wrong(-1), SelfScale.BAD);
-        CHECK.due("wrong 2", x.wrong(2), SelfScale.BAD);
     }
 
     private static void sureThings() {
@@ -202,37 +183,5 @@ public final class CouldTest {
         // Own 5 alone: a laugh in the last.
         odds(x, 0, 1, 3, 0, 1);
         odds(x, 2, 1, 3, 1, 1);
-    }
-
-    /** Of two figures all is possible in every line: the odds are those that were told. */
-    private static void oddsOfTwelve() {
-        SelfScale x = Check.market("thing 9;thing 9;thing 9;own 9;figures 2;");
-        for (int k = 0; k < 12; k++) {
-            x.tell(0, 0, 2);
-        }
-        CHECK.due("all fit", x.could(-1, 0), 7290);
-        // Own is even: no laughs (8 by 9 twelve times); odd: twelve laughs.
-        odds(x, 11, 1, 9, 1, 68719476737L);
-        odds(x, 0, 8, 9, 68719476736L, 68719476737L);
-        odds(x, 5, 1, 2, 1, 2);
-    }
-
-    private static void badOdds() {
-        SelfScale x = Check.market("own 4;");
-        CHECK.due("no line", x.odds(0, 1, 2, 0), SelfScale.BAD);
-        x.weigh(0, 1, 0);
-        CHECK.due("k -1", x.odds(-1, 1, 2, 0), SelfScale.BAD);
-        CHECK.due("k 1", x.odds(1, 1, 2, 0), SelfScale.BAD);
-        CHECK.due("a 0", x.odds(0, 0, 2, 0), SelfScale.BAD);
-        CHECK.due("a -1", x.odds(0, -1, 2, 0), SelfScale.BAD);
-        CHECK.due("a as b", x.odds(0, 2, 2, 0), SelfScale.BAD);
-        CHECK.due("a above b", x.odds(0, 3, 2, 0), SelfScale.BAD);
-        CHECK.due("b 10", x.odds(0, 1, 10, 0), SelfScale.BAD);
-        CHECK.due("b least", x.odds(0, 1, Integer.MIN_VALUE, 0), SelfScale.BAD);
-        CHECK.due("what -1", x.odds(0, 1, 2, -1), SelfScale.BAD);
-        CHECK.due("what 2", x.odds(0, 1, 2, 2), SelfScale.BAD);
-        x.tell(0, 9, 0);
-        CHECK.due("bad ahead of state", x.odds(0, 1, 2, 2), SelfScale.BAD);
-        CHECK.due("state", x.odds(0, 1, 2, 1), SelfScale.STATE);
     }
 }

@@ -1,13 +1,10 @@
-/** Promises 19 to 21 and 23: marks, images, the trace. */
+/** Promises 19 to 21 and 23: marks, images, the trace; their bounds are in KindsBoundsTest. */
 public final class KindsTest {
     private static final Check CHECK = new Check("KindsTest");
 
     public static void main(String[] args) {
         marks();
-        badMarks();
         images();
-        badImages();
-        imagesKeepTheBookAlone();
         CHECK.end();
     }
 
@@ -49,17 +46,6 @@ public final class KindsTest {
         mark(y, 5, 0, 1, 100001);
     }
 
-    private static void badMarks() {
-        SelfScale x = Check.market("thing 7;thing 2;");
-        CHECK.due("kind -1", x.mark(-1, 0), SelfScale.NO);
-        CHECK.due("kind 6", x.mark(6, 0), SelfScale.NO);
-        CHECK.due("i -1", x.mark(0, -1), SelfScale.NO);
-        CHECK.due("i 2", x.mark(5, 2), SelfScale.NO);
-        CHECK.due("own is no thing", x.mark(0, 3), SelfScale.NO);
-        CHECK.due("no thing", new SelfScale().mark(0, 0), SelfScale.NO);
-        CHECK.due("no trace of these", x.trace(), 0);
-    }
-
     private static void images() {
         SelfScale x = Check.market("thing 7;thing 2;");
         CHECK.due("none kept", x.back(0), SelfScale.STATE);
@@ -87,30 +73,5 @@ public final class KindsTest {
         CHECK.due("kept anew", x.keep(1), 1);
         x.undo();
         CHECK.due("back to one", x.back(1), 1);
-    }
-
-    private static void badImages() {
-        SelfScale x = new SelfScale();
-        int[] numbers = {-1, 2, Integer.MIN_VALUE, Integer.MAX_VALUE};
-        for (int image : numbers) {
-            CHECK.due("keep " + image, x.keep(image), SelfScale.BAD);
-            CHECK.due("back " + image, x.back(image), SelfScale.BAD);
-        }
-        x.keep(1);
-        CHECK.due("the other one was not kept", x.back(0), SelfScale.STATE);
-        CHECK.due("this one was", x.back(1), 0);
-    }
-
-    private static void imagesKeepTheBookAlone() {
-        SelfScale x = Check.market("thing 7;thing 2;own 3;");
-        x.keep(0);
-        x.mark(0, 0);
-        Check.type(x, "own");
-        x.tell(0, 1, 0);
-        CHECK.due("back", x.back(0), 0);
-        CHECK.due("trace stays", x.trace(), 1);
-        CHECK.due("text stays", x.count(3), 3);
-        CHECK.due("things stay", x.count(0), 2);
-        CHECK.due("own stays", x.thing(3), 3);
     }
 }

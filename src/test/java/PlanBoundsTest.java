@@ -46,6 +46,11 @@ public final class PlanBoundsTest {
         x.tell(1, 5, 0);
         // Weighing none would tell the five apart.
         next(x, "a thing and own of 5", 1, 5);
+        SelfScale y = Check.market("thing 3;thing 5;figures 20;");
+        y.tell(1, 5, 0);
+        y.tell(2, 7, 0);
+        // So would it here, and both things do.
+        next(y, "a thing and own of 5, another and own of 7", 3, 1);
     }
 
     private static void nextLeastOfSeveral() {
@@ -191,8 +196,8 @@ public final class PlanBoundsTest {
         CHECK.due("fewest(0) of 1 to 9", x.fewest(0), SelfScale.NONE);
         x.tell(1, 3, 2);
         CHECK.due("fewest(0) of 1, 2 and 9", x.fewest(0), SelfScale.NONE);
-        // Own is one and the same weight: just the first and the last of all worlds left are alike.
-        for (int own = 2; own <= 7; own++) {
+        // From 2 on own is one weight alone: just the first and the last of the worlds left are alike.
+        for (int own = 0; own <= 7; own++) {
             SelfScale y = Check.market("thing 5;figures 8;");
             y.tell(0, own, 0);
             CHECK.due("fewest(0) with own " + own, y.fewest(0), SelfScale.NONE);

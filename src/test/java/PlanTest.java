@@ -1,27 +1,14 @@
-/** Promises 13 and 14: which weighing to make next, and how few make a thing sure. */
+/** Promises 13 and 14: which weighing to make next, and how few make a thing sure; see PlanBoundsTest, too. */
 public final class PlanTest {
     private static final Check CHECK = new Check("PlanTest");
 
     public static void main(String[] args) {
-        nextOfNone();
         nextAtFirst();
         nextOfSome();
         fewestOfOwn();
         fewestOfThings();
         fewestAfterUnheard();
-        badPlans();
         CHECK.end();
-    }
-
-    private static void nextOfNone() {
-        SelfScale x = new SelfScale();
-        CHECK.due("no things", x.next(0), SelfScale.NONE);
-        CHECK.due("no things, worst", x.next(1), SelfScale.NONE);
-        SelfScale y = Check.market("thing 3;thing 4;");
-        y.tell(0, 1, 0);
-        y.tell(0, 2, 0);
-        CHECK.due("none could be", y.next(0), 1);
-        CHECK.due("none could be, worst", y.next(1), 0);
     }
 
     private static void nextAtFirst() {
@@ -121,16 +108,5 @@ public final class PlanTest {
         }
         CHECK.due("two for a thing", x.fewest(0), 2);
         CHECK.due("one for the scale", x.fewest(3), 1);
-    }
-
-    private static void badPlans() {
-        SelfScale x = Check.market("thing 7;");
-        CHECK.due("next(-1)", x.next(-1), SelfScale.BAD);
-        CHECK.due("next(2)", x.next(2), SelfScale.BAD);
-        CHECK.due("next(2) of no things", new SelfScale().next(2), SelfScale.BAD);
-        CHECK.due("fewest(-1)", x.fewest(-1), SelfScale.BAD);
-        CHECK.due("fewest(1)", x.fewest(1), SelfScale.BAD);
-        CHECK.due("fewest(2)", x.fewest(2), SelfScale.BAD);
-        CHECK.due("fewest(4)", x.fewest(4), SelfScale.BAD);
     }
 }

@@ -1,11 +1,10 @@
-/** Promises 17 and 18: sacks by differences, things laid by turns. */
+/** Promises 17 and 18: sacks by differences, things laid by turns; their bounds are in SackBoundsTest. */
 public final class SackTest {
     private static final Check CHECK = new Check("SackTest");
 
     public static void main(String[] args) {
         sacks();
         leastOfSeveral();
-        badSacks();
         turns();
         CHECK.end();
     }
@@ -44,15 +43,6 @@ public final class SackTest {
         sack(Check.market("thing 1;thing 1;thing 2;"), 2, 1, 4, 0);
         sack(Check.market("thing 1;thing 2;thing 4;"), 1, 1, 1, 0);
         sack(Check.market("thing 1;thing 2;thing 4;"), 3, 2, 3, 0);
-    }
-
-    private static void badSacks() {
-        SelfScale x = Check.market("thing 5;");
-        CHECK.due("weight -1", x.sack(-1, 0), SelfScale.BAD);
-        CHECK.due("weight 28", x.sack(28, 0), SelfScale.BAD);
-        CHECK.due("what -1", x.sack(5, -1), SelfScale.BAD);
-        CHECK.due("what 3", x.sack(5, 3), SelfScale.BAD);
-        CHECK.due("what 3 of none", x.sack(7, 3), SelfScale.BAD);
     }
 
     private static void turns(String text, int want) {
