@@ -49,9 +49,17 @@ public final class ModelTest {
         check.due("run " + run + " " + call, got, want);
     }
 
+    /** By one byte and more at a time; what stands above the bytes that come to the text is anything. */
     private void type(String text) {
-        for (int k = 0; k < text.length(); k++) {
-            due("type", x.type(text.charAt(k), 1), m.type(text.charAt(k), 1));
+        int at = 0;
+        while (at < text.length()) {
+            int n = Math.min(draw(1, 8), text.length() - at);
+            long v = draw(1 << 30);
+            for (int k = 0; k < n; k++) {
+                v = v << 8 | text.charAt(at + k) & 255;
+            }
+            due("type " + v + " " + n, x.type(v, n), m.type(v, n));
+            at += n;
         }
     }
 

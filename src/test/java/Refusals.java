@@ -25,6 +25,17 @@ final class Refusals {
     void due(String call, Call refused, long want) {
         SelfScale x = start.make();
         check.due(call, refused.on(x), want);
+        isUntouched(call, x);
+    }
+
+    /** A call that asks is as one that is refused: it changes nothing, whatever it answers. */
+    void asks(String call, Call asked) {
+        SelfScale x = start.make();
+        asked.on(x);
+        isUntouched(call, x);
+    }
+
+    private void isUntouched(String call, SelfScale x) {
         List<String> after = View.of(x);
         for (int k = 0; k < untouched.size(); k++) {
             boolean isSame = after.get(k).equals(untouched.get(k));
